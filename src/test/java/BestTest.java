@@ -74,8 +74,11 @@ public final class BestTest {
         DUE.is("the first of three", x.fewest(0, 5, 3, 0), 1);
         DUE.is("the second of three", x.fewest(0, 5, 3, 1), 2);
         DUE.is("the third of three", x.fewest(0, 5, 3, 2), 3);
+        x.follows(7, 3, 6);
+        DUE.is("no rule holds yet", x.fewest(0, 6, 1, -1), NONE);
         x.follows(7, 0, 5);
         DUE.is("by what FOLLOWS", x.fewest(0, 5, 3, -1), 1);
+        DUE.is("the last one asks the first", x.fewest(3, 2, 3, 0), 0);
         HeronTalk y = Due.town(6, 3);
         y.knows(0, 0, 0b000001);
         y.knows(1, 0, 0b000010);
@@ -87,6 +90,11 @@ public final class BestTest {
         DUE.is("and the other not to be had", y.fewest(0, 3, 3, -1), NONE);
         y.talk(4, 0, 2);
         DUE.is("of the KIND 0 alone", y.fewest(0, 3, 3, -1), NONE);
+        Due.text(y, "price w");
+        DUE.is("by a TEXT, needs are nothing", y.fewest(0, 3, 3, -1), 2);
+        DUE.is("by a TEXT, the other one", y.fewest(0, 2, 3, -1), NONE);
+        Due.text(y, "price 99-w");
+        DUE.is("by the last TEXT", y.fewest(0, 2, 3, -1), 2);
     }
 
     private static void fewestRefused() {
@@ -169,6 +177,11 @@ public final class BestTest {
         x.knows(1, 0, 15);
         x.knows(2, 0, 15);
         DUE.is("all KNOW all", x.keepsBack(0), 0);
+        x.knows(0, 0, 0b0111);
+        DUE.is("the first one lacks it", x.keepsBack(1), 3);
+        Due.text(x, "price 9-k");
+        x.knows(2, 0, 0b1110);
+        DUE.is("of several the least, by a TEXT", x.keepsBack(1), 0);
         int[] wrong = {-1, 3, MIN, MAX};
         for (int w : wrong) {
             DUE.is("keepsBack(" + w + ")", x.keepsBack(w), BAD);

@@ -229,6 +229,8 @@ public final class FactsTest {
         Due.text(x, "price w*100*k+n");
         DUE.is("k is 1", x.price(0, 0), 0);
         DUE.is("held within 999", x.price(1, 1), 999);
+        Due.text(x, "price 0");
+        DUE.is("0 is no name", x.price(1, 1), 0);
         Due.text(x, "price 0-w");
         DUE.is("held within 0", x.price(1, 1), 0);
         Due.text(x, "price w+n+10*k");

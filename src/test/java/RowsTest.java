@@ -7,6 +7,7 @@ public final class RowsTest {
     public static void main(String[] args) {
         tell();
         check();
+        checkByImage();
         checkLate();
         checkRefused();
         keepAndBack();
@@ -74,6 +75,32 @@ public final class RowsTest {
         DUE.is("back()", x.back(), 2);
         DUE.is("THE IMAGE stays", x.count(6), 4);
         DUE.is("and its HOUR", x.count(4), 0);
+    }
+
+    /** The image's own talks, rules and texts make its rounds, not those of now. */
+    private static void checkByImage() {
+        HeronTalk x = Due.town(4, 3);
+        x.knows(1, 0, 0b0110);
+        x.knows(2, 0, 0b1001);
+        x.follows(2, 0, 3);
+        x.follows(1, 3, 0);
+        x.talk(1, 2, 1);
+        Due.text(x, "price 20-w/10");
+        DUE.is("it GOES by the TEXT", x.told(0, 5), 0);
+        Due.text(x, "price 7");
+        DUE.is("it GOES by the TEXT", x.told(0, 5), 1);
+        x.keep();
+        Due.text(x, "price w");
+        x.turns(0, 4);
+        x.follows(1, 1, 0);
+        x.follows(1, 1, 2);
+        x.follows(1, 1, 3);
+        x.knows(0, 0, 15);
+        DUE.is("the rounds of then", told(x, 3, 1, 7, 0, 7, 0, 7), 0);
+        x.back();
+        DUE.is("round()", x.round(), 1);
+        DUE.is("p", x.personTold(2, 0), 0b1011);
+        DUE.is("q", x.personTold(1, 0), 0b1111);
     }
 
     private static void checkLate() {

@@ -32,8 +32,10 @@ public final class SheetsTest {
         DUE.is("sheet(0, 0, 0)", x.sheet(0, 0, 0), 0);
         DUE.is("no place", x.mark(0, 0, 1), INDEX);
         DUE.is("sheet(3, 1, 24)", x.sheet(3, 1, 24), 24);
+        DUE.is("the first place", x.mark(3, 0, 5), 1);
         DUE.is("the last place", x.mark(3, 23, 5), 1);
         DUE.is("sheet(3, 1, 24) anew", x.sheet(3, 1, 24), 24);
+        DUE.is("all 0", place(x, 3, 0), 0);
         DUE.is("all 0", place(x, 3, 23), 0);
         DUE.is("sheet(3, 0, 24)", x.sheet(3, 0, 24), 24);
         DUE.is("of shorts now", x.mark(3, 0, NONE), KIND);

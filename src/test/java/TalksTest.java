@@ -18,6 +18,7 @@ public final class TalksTest {
         sayByKinds();
         round();
         market();
+        fullTown();
         DUE.end();
     }
 
@@ -322,5 +323,31 @@ public final class TalksTest {
         DUE.is("THE HOUR", y.count(4), 999);
         DUE.is("p", y.personTold(0, 0), 0b11011);
         DUE.is("market() at 999", y.market(), 0);
+    }
+
+    /** As many of all as there may be: nothing is looked for behind the last. */
+    private static void fullTown() {
+        DUE.promise("promises 6, 14, 18, 20 to 24, 33, in a full town");
+        HeronTalk x = Due.town(16, 8);
+        for (int i = 0; i < 8; i++) {
+            x.knows(i, 0, 3 << 2 * i);
+            x.knows(i, 1, 1 << 15);
+            x.talk(i % 6, i, (i + 1) % 8);
+            x.follows(15, 15, 15);
+        }
+        DUE.is("GIVEN", x.told(7, 3), 14);
+        DUE.is("GOT", x.told(7, 4), 1);
+        DUE.is("NEWS", x.personTold(7, 3), 2);
+        DUE.is("sum", x.personTold(7, 4), 180);
+        DUE.is("RICHEST", x.richest(), 4);
+        DUE.is("KEEP", x.keepsBack(7), 15);
+        DUE.is("FEWEST", x.fewest(7, 1, 3, -1), 1);
+        DUE.is("FEWEST, who is asked", x.fewest(7, 1, 3, 0), 0);
+        DUE.is("LOOK", x.look(0, 15), 9);
+        DUE.is("who KNOWS", x.factTold(15, 3), 128);
+        DUE.is("round(): all but FAIR 1 and CHAIN 3", x.round(), 6);
+        DUE.is("count(6)", x.count(6), 16 + 2 + 2 + 1 + 4 + 2 + 2);
+        x.sheet(0, 0, 24);
+        DUE.is("pour(0)", x.pour(0), 16);
     }
 }

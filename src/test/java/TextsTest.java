@@ -98,6 +98,9 @@ public final class TextsTest {
         value("3>2", 1);
         value("2>2", 0);
         value("1+1=2", 1);
+        value("2+2=4", 1);
+        value("4=2+2", 1);
+        value("9-1>2*3+1", 1);
         value("(1<2)=1", 1);
         value("5&3", 1);
         value("5&0", 0);
@@ -143,6 +146,12 @@ public final class TextsTest {
         fault("pric w", 0);
         fault("  prices w", 2);
         fault("pricew", 0);
+        fault("xrice w", 0);
+        fault("ook w", 0);
+        fault("lookz w", 0);
+        fault("looka w", 0);
+        fault("fine9", 4);
+        fault("fine0", 4);
         fault("Price w", 0);
         fault("1", 0);
         fault("(price w)", 0);
@@ -201,6 +210,15 @@ public final class TextsTest {
         DUE.is("tests in brackets", Due.text(x, "price (1<2)<(2<3)"), 1);
         DUE.is("brackets need no blank", Due.text(x, "price(w)"), 2);
         DUE.is("nor does !", Due.text(x, "price!w"), 3);
+        DUE.is("a fault among open signs", Due.text(x, "fine 1+((!(!(2*"), -115);
+        DUE.is("nothing of it is left", Due.text(x, "fine " + many("!(", 8) + "0" + many(")", 8)), 4);
+        DUE.is("its value", x.fine(), 0);
+        DUE.is("a fault behind leaves", Due.text(x, "fine 1+2+3)"), -110);
+        DUE.is("nothing of it is left", Due.text(x, "fine 7"), 5);
+        DUE.is("its value", x.fine(), 7);
+        DUE.is("its leaves", x.textTold(5, 1), 1);
+        DUE.is("a fault behind a test", Due.text(x, "fine 1<"), -107);
+        DUE.is("nothing of it is left", Due.text(x, "fine 1<2"), 6);
     }
 
     private static String many(String sign, int n) {
@@ -259,6 +277,11 @@ public final class TextsTest {
         for (int[] w : wrong) {
             DUE.is("textTold(" + w[0] + ", " + w[1] + ")", x.textTold(w[0], w[1]), BAD);
         }
+        for (int i = 3; i < 14; i++) {
+            Due.text(x, "look 1");
+        }
+        DUE.is("the last of fourteen", x.textTold(13, 0), 1);
+        DUE.is("the one behind it", x.textTold(14, 0), BAD);
     }
 
     private static void why() {
