@@ -76,8 +76,8 @@ public final class HeronTalk {
         image = new Town();
         thought = new Town();
         hasImage = false;
-        tape = new Tape();
-        reader = new Reader(tape);
+        reader = new Reader();
+        tape = reader.tape;
         sheets = new Sheet[SHEETS];
         for (int i = 0; i < SHEETS; i++) {
             sheets[i] = new Sheet();
@@ -288,7 +288,7 @@ public final class HeronTalk {
         }
         thought.becomes(town);
         for (int talks = 0; talks <= n; talks++) {
-            if (thought.comesToKnow(person, fact, talks, 0, row)) {
+            if (comesToKnow(thought, person, fact, talks, 0, row)) {
                 if (what < 0) {
                     return talks;
                 }
@@ -627,12 +627,12 @@ public final class HeronTalk {
         return Math.max(least, Math.min(most, v));
     }
 
-    // ---- kinds
+    // ---- kinds, rows of talks
 
     /** Whether a kind is another one or stands under it. */
     private static boolean isOfKind(int kind, int other) {
         int above = kind;
-        for (int step = 0; step < KINDS && above >= 0; step++) {
+        for (int step = 0; step < KINDS && above >= 0 && above < ABOVE.length; step++) {
             if (above == other) {
                 return true;
             }
@@ -643,6 +643,31 @@ public final class HeronTalk {
 
     private static boolean goes(int kind, int given, int got) {
         return got != NOBODY && (given != NOBODY || isOfKind(kind, HERMIT_KIND));
+    }
+
+    /**
+     * Whether one comes to know a fact by just so many talks more; the row then
+     * tells whom it asks. Tried by numbers, so the first row is found; a talk of
+     * kind 0 changes what two know, and that alone is put back.
+     */
+    private static boolean comesToKnow(Town thought, int p, int fact, int left, int depth, int[] row) {
+        if (left <= 0 || depth >= row.length) {
+            return thought.isKnown(p, fact);
+        }
+        int knewP = thought.knows[p];
+        for (int q = 0; q < thought.people; q++) {
+            int knewQ = thought.knows[q];
+            if (q == p || !thought.converse(TALK_KIND, p, q)) {
+                continue;
+            }
+            row[depth] = q;
+            if (comesToKnow(thought, p, fact, left - 1, depth + 1, row)) {
+                return true;
+            }
+            thought.knows[p] = knewP;
+            thought.knows[q] = knewQ;
+        }
+        return false;
     }
 
     /** All that an image keeps. Sets of facts and of people are told by bits. */
@@ -1002,31 +1027,6 @@ public final class HeronTalk {
             return went;
         }
 
-        /**
-         * Whether one comes to know a fact by just so many talks more; the row
-         * then tells whom it asks. Tried by numbers, so the first row is found;
-         * a talk of kind 0 changes what two know, and that alone is put back.
-         */
-        boolean comesToKnow(int p, int fact, int talksLeft, int depth, int[] row) {
-            if (talksLeft <= 0 || depth >= row.length) {
-                return isKnown(p, fact);
-            }
-            int knewP = knows[p];
-            for (int q = 0; q < people; q++) {
-                int knewQ = knows[q];
-                if (q == p || !converse(TALK_KIND, p, q)) {
-                    continue;
-                }
-                row[depth] = q;
-                if (comesToKnow(p, fact, talksLeft - 1, depth + 1, row)) {
-                    return true;
-                }
-                knows[p] = knewP;
-                knows[q] = knewQ;
-            }
-            return false;
-        }
-
         int bestToKeep(int person) {
             int best = NOBODY;
             int most = 0;
@@ -1180,8 +1180,8 @@ public final class HeronTalk {
         int nots;
         boolean wantsPiece;
 
-        Reader(Tape read) {
-            tape = read;
+        Reader() {
+            tape = new Tape();
             code = new int[MOST_BYTES];
             pile = new int[MOST_BYTES];
         }

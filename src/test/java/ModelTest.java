@@ -16,12 +16,12 @@ public final class ModelTest {
     /** Of each call how often it is drawn, and the least and the most of each argument. */
     private static final String[] FACE = {
         "fact 6 0 99", "factTold 4 0 f 0 3", "set 3 0 f 0 1 0 99", "person 4", "personTold 5 0 p 0 4",
-        "knows 7 0 p 0 1 s s", "follows 3 0 f 0 f 0 f", "price 4 0 f 0 p", "deal 3", "seed 1 -99 99", "clock 2 0 30",
+        "knows 7 0 p 0 1 s s", "follows 3 0 f 0 f 0 f", "price 4 0 f 0 p", "deal 7", "seed 1 -99 99", "clock 2 0 30",
         "talk 6 0 5 0 p 0 p", "told 9 0 t 0 6", "as 2 0 t 0 5", "turns 3 0 t 0 5", "say 6 0 t", "round 5", "market 2",
         "richest 2", "fewest 6 0 p 0 f 0 3 -1 2", "look 3 0 p 0 f", "find 3 0 p 0 f", "keepsBack 3 0 p", "fine 3",
-        "feed 1 -9 9 -9 9 -9 9", "trim 1 0 96", "text 1", "textTold 2 0 14 0 1", "why 1 0 2", "sheet 3 0 3 -1 1 0 24",
-        "mark 8 0 3 0 24 0 6", "pour 2 0 3", "reads 3 0 3", "copy 4 0 3 0 9 0 3 0 9 0 9", "lay 6 0 4 0 3 0 t",
-        "ask 5 0 4 0 5", "item 4 0 4 0 24", "rest 2 0 4 -9 9", "tell 2 0 3", "check 1 1 30", "keep 2", "back 2",
+        "feed 1 -9 9 -9 9 -9 9", "trim 1 0 96", "text 1", "textTold 2 0 14 0 1", "why 1 0 2", "sheet 2 0 3 0 1 0 24",
+        "mark 9 0 3 0 9 0 9", "pour 2 0 3", "reads 3 0 3", "copy 4 0 3 0 9 0 3 0 9 0 9", "lay 6 0 4 1 3 0 t",
+        "ask 5 0 4 0 5", "item 6 0 4 0 12", "rest 2 0 4 -9 9", "tell 2 0 3", "check 1 1 30", "keep 2", "back 2",
         "count 2 0 10"};
     private static final String[] BITS = {"w", "n", "k", "s", "h", "price", "look", "fine", "1", "12", "9999", "12345",
         "00", "+", "-", "*", "/", "<", "=", ">", "&", "|", "!", "(", ")", " ", "  ", "!!!", "(((", ")))", "x", "W", "%",
@@ -77,6 +77,15 @@ public final class ModelTest {
         }
         for (int i = lot.nextInt(8); i >= 0; i--) {
             call("talk", lot.nextInt(6), lot.nextInt(people), lot.nextInt(people));
+        }
+        for (int i = 0; i < 4; i++) {
+            call("sheet", i, lot.nextInt(2), lot.nextInt(25));
+            for (int place = 0; place < people; place++) {
+                call("mark", i, place, lot.nextInt(5) == 0 ? HeronTalk.NONE : Integer.bitCount(real.personTold(place, 0)));
+            }
+        }
+        for (int i = 0; i < 5; i++) {
+            call("lay", i, 1 + lot.nextInt(3), lot.nextInt(4));
         }
     }
 
