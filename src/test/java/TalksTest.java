@@ -343,6 +343,7 @@ public final class TalksTest {
         DUE.is("KEEP", x.keepsBack(7), 15);
         DUE.is("FEWEST", x.fewest(7, 1, 3, -1), 1);
         DUE.is("FEWEST, who is asked", x.fewest(7, 1, 3, 0), 0);
+        DUE.is("FEWEST, by nobody", x.fewest(7, 13, 1, -1), NONE);
         DUE.is("LOOK", x.look(0, 15), 9);
         DUE.is("who KNOWS", x.factTold(15, 3), 128);
         DUE.is("round(): all but FAIR 1 and CHAIN 3", x.round(), 6);
