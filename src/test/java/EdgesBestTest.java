@@ -76,6 +76,8 @@ public final class EdgesBestTest {
         run("21: the first of such rows by PEOPLE that are asked", "fact 10; fact 20; 8x person; knows 3 0 1",
             "knows 7 0 2; fewest 3 1 3 0 = 7; knows 5 0 2; fewest 3 1 3 0 = 5; knows 0 0 2; fewest 3 1 3 0 = 0",
             "fewest 3 1 3 -1 = 1");
+        run("21: of eight nobody helps", "3x fact 10; 8x person; knows 7 0 1; knows 0 0 2; fewest 7 2 3 -1 = NONE",
+            "fewest 0 2 3 -1 = NONE; fewest 7 1 3 -1 = 1; fewest 7 1 3 0 = 0; fewest 0 0 3 0 = 7");
         run("21: the same one may be asked again", "fact 1; fact 2; fact 3; fact 8; fact 9; 2x person; knows 0 0 7",
             "knows 1 0 24; fewest 0 3 1 -1 = NONE; fewest 0 3 2 -1 = 2; fewest 0 3 2 0 = 1; fewest 0 3 2 1 = 1");
         run("21: only such as GO", "fact 10; fact 20; 2x person; knows 1 0 3; fewest 0 1 3 -1 = NONE; knows 0 0 1",
