@@ -112,7 +112,7 @@ final class Script {
         }
     }
 
-    private static int number(String word) {
+    static int number(String word) {
         switch (word) {
             case "BAD": return HeronTalk.BAD;
             case "NO": return HeronTalk.NO;
